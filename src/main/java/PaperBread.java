@@ -1168,9 +1168,9 @@ public final class PaperBread {
             return hasLoaf(loaf) && isWet(oven[loaf]);
         }
 
-        /** The share must have been settled for this LOAF as it comes today. */
+        /** Of a LOAF that can be BAKED, for which the share was settled as it comes today. */
         int bringOut(int loaf, Share share) {
-            if (!canBake(loaf)) {
+            if (!hasLoaf(loaf)) {
                 return NONE;
             }
             for (int p = 0; p < people; p++) {
