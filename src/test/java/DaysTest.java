@@ -59,6 +59,10 @@ public final class DaysTest {
         Check.fine(y, "two DAYS draw as one and one", y.many(6), 3);
         PaperBread d = live("wait 2; bake rye;", DRY, 2, 0, 11, 0, 0, 0);
         Check.fine(d, "another seed", d.many(6), 2);
+        PaperBread f = live("wait 1;", 13, 1);
+        Check.fine(f, "8 is not less than 8", f.many(6), 2);
+        PaperBread g = live("wait 1;", 4, 1);
+        Check.fine(g, "7 is less than 8", g.many(6), 3);
         PaperBread e = live("wait 1;", 0, 1);
         Check.fine(e, "DAY 1: 13 is not less than 8", e.many(6), 2);
         PaperBread z = live("wait 9; wait 9; wait 9; wait 9; wait 9; wait 9;"
@@ -96,6 +100,7 @@ public final class DaysTest {
         live("when day < 1; wait 1; end; when day > 0; wait 1; end;", 0, 4);
         live("wait 2; bake rye; when has bob < 6; stop; end; when has bob > 6; stop; end;"
                 + "when has bob = 6; stop; end;", DRY, 6);
+        live("wait 1; bake oat; when baked rye; stop; end; when baked oat; stop; end; wait 1;", 0, 5);
         live("when baked rye; stop; end; wait 2; bake rye; when baked rye; stop; end; wait 1;", 0, 5);
         live("when wet old; stop; end; wait 1; when wet hot; stop; end; when wet old; stop; end;", 0, 5);
     }
@@ -145,6 +150,9 @@ public final class DaysTest {
         Check.fine(y, "many(5)", y.many(5), 0);
         Check.fine(y, "person(1, 1)", y.person(1, 1), 0);
         Check.fine(y, "lived(3)", y.lived(3), none);
+        // The third draw is 2 from seed 0, 15 from 1, 13 from 2, 10 from 3.
+        Check.fraction(y, "WET by the first of three seeds", y.odds(1, 6, 0, 3), 2, 3);
+        Check.fraction(y, "dry by all three", y.odds(1, 6, 1, 3), 1, 1);
         Check.fraction(y, "odds of one seed", y.odds(0, 5, 0, 1), 1, 1);
         Check.fraction(y, "more than there is", y.odds(0, 999, 0, 20), 0, 1);
     }

@@ -74,6 +74,8 @@ public final class FlourTest {
         Check.fine(x, "keeps(1, 0, 6)", x.keeps(1, 0, 6), 5);
         x.write(0, 0, 1);
         Check.fine(x, "keeps(1, 0, 1)", x.keeps(1, 0, 1), 0);
+        x.write(0, 4, 999);
+        Check.fine(x, "999 may be asked", x.keeps(1, 0, 5), 0);
         x.write(0, 4, 1000);
         Check.none(x, "keeps(1, 0, 5)", x.keeps(1, 0, 5), 5);
         Check.fine(x, "keeps(1, 0, 4)", x.keeps(1, 0, 4), 0);

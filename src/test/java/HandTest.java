@@ -114,6 +114,7 @@ public final class HandTest {
         Check.none(x, "eat(3, 0)", x.eat(3, 0), 2);
         Check.none(x, "eat(0, 0)", x.eat(0, 0), 5);
         Check.none(x, "eat(0, 100)", x.eat(0, 100), 5);
+        Check.fine(x, "eat(0, 1)", x.eat(0, 1), 1);
         Check.fine(x, "pay(0, 2, 24)", x.pay(0, 2, 24));
         Check.fine(x, "person(0, 0)", x.person(0, 0), 0);
         Check.fine(x, "person(2, 0)", x.person(2, 0), 15);

@@ -175,6 +175,9 @@ public final class HeldTest {
                 + "loaf m by a in p on 1 slices 5 flour 1;");
         Check.fraction(y, "it always RAINS", y.mean(0, 0, 0), 2, 1);
         Check.fraction(y, "it never RAINS", y.mean(0, 1, 0), 5, 1);
+        PaperBread z = Check.of("person a;person b;oven o rain 1;loaf l by a in o on 1 slices 1 flour 1;"
+                + "promise 1 of l from a to b;");
+        Check.fraction(z, "WORTH of one alone", z.mean(1, 0, 1), 15, 16);
     }
 
     private static void handOvers() {
@@ -235,7 +238,47 @@ public final class HeldTest {
         Check.fine(x, "ringAt(1) by the latest with STATUS 0", x.ringAt(1), 5);
     }
 
+    /** As much as a TOWN can have: eight persons, eight LOAVES, forty PROMISES, a RING of eight. */
+    private static void fullHouse() {
+        StringBuilder text = new StringBuilder();
+        for (char c = 'a'; c <= 'h'; c++) {
+            text.append("person ").append(c).append(";");
+        }
+        text.append("oven w;oven x;oven y;oven z rain 16;");
+        for (char c = 'a'; c <= 'h'; c++) {
+            text.append("loaf l").append(c).append(" by ").append(c).append(" in z on 0 slices 9 flour 9;");
+        }
+        PaperBread x = Check.of(text.toString());
+        for (int i = 0; i < 40; i++) {
+            Check.fine(x, "make " + i, x.make(1 + i / 8, i % 8, i % 8, (i + 1) % 8, i), i);
+        }
+        Check.fine(x, "ring()", x.ring(), 8);
+        for (int k = 0; k < 8; k++) {
+            Check.fine(x, "ringAt(" + k + ")", x.ringAt(k), k);
+        }
+        x.tray(0, 0, 60);
+        for (int p = 0; p < 8; p++) {
+            Check.fine(x, "net(" + p + ")", x.net(p), 0);
+            Check.fine(x, "depth(" + (32 + p) + ")", x.depth(32 + p), 1);
+            Check.fine(x, "holds(" + p + ", 7)", x.holds(p, 7), p == 7 ? -6 : p == 0 ? 15 : 0);
+            Check.fine(x, "gets(" + p + ", 7, false)", x.gets(p, 7, false), p == 0 ? 9 : 0);
+            Check.fine(x, "owing(" + p + ")", x.owing(p), 1 << p);
+            Check.none(x, "keeps(" + p + ", 0, 60)", x.keeps(p, 0, 60), 8);
+            Check.fine(x, "saved(" + p + ", 9, 1)", x.saved(p, 9, 1), 1 << (p + 7) % 8);
+        }
+        Check.fine(x, "handOvers()", x.handOvers(), 0);
+        Check.fine(x, "between(7, 0)", x.between(7, 0), 15);
+        Check.none(x, "faces()", x.faces(), 9);
+        Check.none(x, "burst()", x.burst(), 8);
+        Check.due("days", Check.days(x, "bake lh; wait 1; when wet z; eat a 8; end;"), 4);
+        Check.fine(x, "live(5)", x.live(5), 4);
+        Check.fine(x, "many(6)", x.many(6), 8);
+        Check.fine(x, "many(5)", x.many(5), 128);
+        Check.fine(x, "person(0, 1)", x.person(0, 1), 1);
+    }
+
     public static void main(String[] args) {
+        fullHouse();
         holds();
         deep();
         firstAndLine();

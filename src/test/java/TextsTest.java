@@ -197,6 +197,10 @@ public final class TextsTest {
         Check.due("30 blocks", Check.days(Check.of(FOLK), rows("loop 2;end;", 27)), 27);
         Check.due("what may be", Check.days(Check.of(FOLK), "when has ann<999;when day>99;when wet hot;"
                 + "end;end;end;break 39;break 0;loop 99;end;pay ann ann 999;eat bob 99;"), 8);
+        Check.due("the least that may be", Check.days(Check.of(FOLK), "when has ann=0;when day=0;end;end;"
+                + "loop 1;end;pay ann bob 1;eat bob 1;wait 1;promise 1 of rye from ann to bob for 0;"), 7);
+        Check.due("of a TOWN, too", Check.town(new PaperBread(), "person a purse 0;person b;oven o rain 0;"
+                + "loaf l by a in o on 0 slices 1 flour 0;promise 1 of l from a to b for 0;"), 1);
     }
 
     private static void whatATownHas() {
