@@ -8,6 +8,14 @@ final class Check {
     private Check() {
     }
 
+    static int wrong() {
+        return wrong;
+    }
+
+    static int asked() {
+        return asked;
+    }
+
     static void due(String call, long got, long want) {
         asked++;
         if (got != want) {
