@@ -1,3 +1,5 @@
+import java.util.ArrayList;
+import java.util.List;
 import java.util.function.Supplier;
 
 /** The sentences of promises 11, 44 to 46, of DAYS as a TEXT and of DAYS lived, one test each. */
@@ -26,8 +28,20 @@ public final class EdgesDaysTest {
             Edges.daysFault(text + sign, 2, place);
             Edges.daysFault(text + "purse ;", 2, place);
             Edges.daysFault(text + "? ;", 1, place);
+            if (!tokens[0].equals("pay") || i != 1) {
+                leftOut(i, end, tokens);
+            }
             text.append(tokens[i]).append(" ");
         }
+    }
+
+    /** All TOKENS but for one: what comes in its place, or the end, can't stand there. */
+    private static void leftOut(int without, String end, String... tokens) {
+        List<String> rest = new ArrayList<>(List.of(tokens));
+        rest.remove(without);
+        int ahead = String.join(" ", List.of(tokens).subList(0, without)).length();
+        boolean last = without == tokens.length - 1 && end.isEmpty();
+        Edges.daysFault(String.join(" ", rest) + end, 2, ahead + (without == 0 || last ? 0 : 1));
     }
 
     private static String times(String one, int many) {
@@ -117,6 +131,7 @@ public final class EdgesDaysTest {
     @Sentence(in = "==== 4.", says = "or pay NAME NAME NUMBER ;")
     private static void t4_stepPay() {
         shape(1, "", "pay", "ann", "bob", "1", ";");
+        Edges.daysFault("pay bob 1 ;", 2, 8);
     }
 
     @Sentence(in = "==== 4.", says = "or when TEST ; {STEP} end ;")
@@ -388,6 +403,10 @@ public final class EdgesDaysTest {
         PaperBread y = live("pay ann bob 25;", 1, 1);
         Check.fine(y, "person(0, 0)", y.person(0, 0), 24);
         live("pay bob ann 1;", 1, 1);
+        PaperBread z = live("pay cid bob 2;", 1, 0);
+        Check.fine(z, "person(2, 0)", z.person(2, 0), 0);
+        Check.fine(z, "person(1, 0)", z.person(1, 0), 1);
+        live("pay cid bob 3;", 1, 1);
     }
 
     @Sentence(in = "==== 4.", says = "What can't be is MISSED (to eat nothing, to pay oneself, too).")
@@ -418,6 +437,8 @@ public final class EdgesDaysTest {
         live("bake bun;when has ann < 3;stop;end;", 2, 0);
         live("bake bun;eat ann 1;when has ann = 2;stop;end;", 4, 0);
         live("when has bob > 0;stop;end;", 1, 0);
+        live("wait 1;bake oat;when has bob = 3;stop;end;", 4, 0);
+        live("wait 1;bake oat;when has cid = 3;stop;end;", 3, 0);
     }
 
     @Sentence(in = "==== 4.", says = "baked: a LOAF; wet: an OVEN.")
@@ -441,6 +462,18 @@ public final class EdgesDaysTest {
         live("loop 99;end;", 1, 0);
         PaperBread z = live("loop 2;loop 3;wait 1;end;wait 1;end;", 1 + 2 * (1 + 3 + 1), 0);
         Check.fine(z, "many(4)", z.many(4), 8);
+    }
+
+    /** A loop that was stopped, or left behind at the 300th STEP, is not gone on with later. */
+    @Sentence(in = "==== 4.", says = "or when TEST ; {STEP} end ; or loop NUMBER ; {STEP} end ; or stop ;")
+    private static void t4_aStoppedLoopIsOver() {
+        PaperBread x = live("loop 9;stop;end;", 2, 0);
+        Check.days(x, "when day = 0;wait 1;end;");
+        Check.fine(x, "live(0)", x.live(0), 2);
+        Check.fine(x, "many(4)", x.many(4), 1);
+        Check.days(x, "loop 2;wait 1;end;");
+        Check.fine(x, "live(0)", x.live(0), 3);
+        Check.fine(x, "many(4)", x.many(4), 3);
     }
 
     private static void left(String days, int done, int left) {
@@ -598,6 +631,17 @@ public final class EdgesDaysTest {
         int[] anew = {1, 0, 1, 0, 0};
         for (int what = 0; what < 5; what++) {
             Check.fine(x, "lived(" + what + ") of the latest", x.lived(what), anew[what]);
+        }
+        x.live(1);
+        Check.fine(x, "lived(0): those of the latest alone", x.lived(0), 2);
+        x.days(0);
+        Check.days(x, "loop 99;loop 99;pay ann ann 1;end;end;");
+        x.live(0);
+        Check.fine(x, "lived(4)", x.lived(4), 1);
+        x.days(0);
+        x.live(0);
+        for (int what = 0; what < 5; what++) {
+            Check.fine(x, "lived(" + what + ") of no STEPS", x.lived(what), 0);
         }
     }
 

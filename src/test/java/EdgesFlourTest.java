@@ -46,6 +46,11 @@ public final class EdgesFlourTest {
         Check.none(x, "what is BAKED is none of them: saved(0, 10, 0)", x.saved(0, 10, 0), 9);
         x.pass(9);
         saved(x, 9, 30, 27);
+        PaperBread first = Check.of("person a;oven o;loaf l by a in o on 0 slices 3 flour 0;"
+                + "loaf m by a in o on 1 slices 3 flour 7;");
+        first.bake(0);
+        saved(first, 3, 7, 2);
+        Check.none(first, "LOAF 0 is BAKED: saved(0, 4, 0)", first.saved(0, 4, 0), 9);
         PaperBread y = Check.of("person a;person b;oven o;loaf la by b in o on 1 slices 1 flour 0;"
                 + "loaf lb by b in o on 1 slices 1 flour 0;loaf lc by b in o on 1 slices 1 flour 0;"
                 + "loaf ld by b in o on 1 slices 1 flour 0;loaf le by b in o on 1 slices 1 flour 0;"
@@ -65,6 +70,8 @@ public final class EdgesFlourTest {
         saved(x, 6, 20, 11);
         saved(x, 7, 25, 25);
         saved(x, 8, 25, 26);
+        saved(Check.of(SIX), 1, 1, 32);
+        saved(Check.of(SIX), 51, 6, 33);
     }
 
     @Sentence(in = "==== 3.", says = "of several the least set.")

@@ -314,7 +314,11 @@ public final class EdgesHandTest {
         x.pass(1);
         x.bake(0);
         x.days(0);
-        Check.town(x, "person zed;");
+        Check.town(x, "person zed;oven o;loaf k by zed in o on 0 slices 8 flour 0;"
+                + "loaf l by zed in o on 0 slices 9 flour 0;");
+        x.bake(0);
+        x.bake(1);
+        Check.fine(x, "loaf(1, 5) of another TOWN", x.loaf(1, 5), 9);
         Check.fine(x, "back()", x.back(), 2);
         int[] many = {3, 2, 4, 5, 1, 10, 2};
         for (int what = 0; what < 7; what++) {

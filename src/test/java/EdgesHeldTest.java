@@ -29,6 +29,102 @@ public final class EdgesHeldTest {
         return Check.of(EIGHT + handed(rows));
     }
 
+    // ---- as much as there may be
+
+    /** Eight persons, four OVENS, eight LOAVES, each of its own BAKER, forty PROMISES round. */
+    private static PaperBread full() {
+        StringBuilder text = new StringBuilder();
+        for (char c = 'a'; c <= 'h'; c++) {
+            text.append("person ").append(c).append(";");
+        }
+        text.append("oven w;oven x;oven y;oven z rain 16;");
+        for (char c = 'a'; c <= 'h'; c++) {
+            text.append("loaf l").append(c).append(" by ").append(c).append(c == 'd' ? "" : " in z")
+                    .append(" on 1 slices 9 flour 9;");
+        }
+        PaperBread x = Check.of(text.toString());
+        for (int i = 0; i < 40; i++) {
+            Check.fine(x, "make " + i, x.make(1 + i / 8, i % 8, i % 8, (i + 1) % 8, i), i);
+        }
+        return x;
+    }
+
+    /** Each HOLDS -6 of its own LOAF (9 less 15) and 15 of the one ahead. */
+    @Sentence(in = "==== 1.", says = "PEOPLE, at most 8")
+    private static void t1_eightPersonsAnswer() {
+        PaperBread x = full();
+        for (int p = 0; p < 8; p++) {
+            int ahead = (p + 7) % 8;
+            Check.fine(x, "holds(" + p + ", " + p + ")", x.holds(p, p), -6);
+            Check.fine(x, "holds(" + p + ", " + ahead + ")", x.holds(p, ahead), 15);
+            Check.fine(x, "net(" + p + ")", x.net(p), 0);
+            Check.fine(x, "between", x.between(ahead, p), 15);
+            Check.fine(x, "first", x.first(p, ahead, ahead), ahead);
+        }
+        Check.fine(x, "handOvers()", x.handOvers(), 0);
+        Check.fine(x, "ring()", x.ring(), 8);
+        Check.fine(x, "ringAt(7)", x.ringAt(7), 7);
+        x.pass(1);
+        Check.fine(x, "bake(6): the eighth GETS 9", x.bake(6), 9);
+        Check.fine(x, "person(7, 1)", x.person(7, 1), 9);
+        Check.fine(x, "person(6, 2): it OWES 6, 6 are lacking", x.person(6, 2), 12);
+        Check.fine(x, "eat(7, 99)", x.eat(7, 99), 9);
+    }
+
+    @Sentence(in = "==== 1.", says = "LOAVES, at most 8")
+    private static void t1_eightLoavesAnswer() {
+        PaperBread x = full();
+        for (int l = 0; l < 8; l++) {
+            Check.fine(x, "deep(" + l + ")", x.deep(l), 1);
+            Check.fine(x, "owing(" + l + ")", x.owing(l), 1 << l);
+            Check.fine(x, "line(" + l + ", 0)", x.line(l, 0), (l + 1) % 8);
+            Check.none(x, "line(" + l + ", 1)", x.line(l, 1), 8);
+            Check.fine(x, "shame(" + l + ", false)", x.shame(l, false), l == 3 ? 6 + 15 : 6 + 6);
+        }
+        Check.fine(x, "gets(0, 7, true)", x.gets(0, 7, true), 4);
+        Check.fine(x, "saved(0, 9, 1)", x.saved(0, 9, 1), 128);
+        Check.none(x, "faces()", x.faces(), 9);
+        Check.fine(x, "burst()", x.burst(), 1);
+        x.tray(0, 0, 2);
+        x.write(0, 1, 9);
+        Check.none(x, "keeps(0, 0, 2)", x.keeps(0, 0, 2), 8);
+        Check.fine(x, "keeps(4, 0, 2): ld is of PAPER", x.keeps(4, 0, 2), 1);
+        Check.fine(x, "days", Check.days(x, "wait 1;bake lh;when wet z;eat a 4;end;"), 4);
+        Check.fraction(x, "odds(0, 1, 0, 20): eaten", x.odds(0, 1, 0, 20), 0, 1);
+        Check.fine(x, "live(0)", x.live(0), 4);
+        Check.fine(x, "lived(0)", x.lived(0), 0);
+        Check.fine(x, "many(5)", x.many(5), 128);
+        Check.fine(x, "many(6)", x.many(6), 8);
+    }
+
+    /** PROMISE 39 goes from the eighth person to the first; each of a LOAF from its BAKER: 1 deep. */
+    @Sentence(in = "==== 4.", says = "if there are fewer than 40")
+    private static void t4_fortyPromisesAnswer() {
+        PaperBread x = full();
+        for (int p = 0; p < 40; p++) {
+            Check.fine(x, "depth(" + p + ")", x.depth(p), 1);
+        }
+        int[] due = {5, 7, 7, 0, 39, 0};
+        for (int what = 0; what < 6; what++) {
+            Check.fine(x, "promise(39, " + what + ")", x.promise(39, what), due[what]);
+        }
+        Check.fine(x, "letGo(39)", x.letGo(39));
+        Check.fine(x, "holds(0, 7)", x.holds(0, 7), 10);
+        x.mark();
+        Check.fine(x, "letGo(38)", x.letGo(38));
+        x.back();
+        Check.fine(x, "promise(38, 5)", x.promise(38, 5), 0);
+        Check.fine(x, "promise(39, 5)", x.promise(39, 5), 1);
+        Check.none(x, "depth(40)", x.depth(40), 2);
+        // Forty of one LOAF to and fro are a row of forty.
+        PaperBread y = Check.of("person a;person b;loaf l by a on 1 slices 9 flour 0;");
+        for (int i = 0; i < 40; i++) {
+            y.make(1, 0, i % 2, 1 - i % 2, 0);
+        }
+        Check.fine(y, "deep(0)", y.deep(0), 40);
+        Check.fine(y, "depth(39)", y.depth(39), 40);
+    }
+
     // ---- Terms: HOLDS
 
     @Sentence(in = "==== 2.", says = "A PROMISE made hands its SLICES on, whether the giver has them or not,")
@@ -664,6 +760,19 @@ public final class EdgesHeldTest {
         PaperBread z = Edges.rich();
         // NETS: ann -4, bob 7, cid -3.
         Check.fine(z, "handOvers()", z.handOvers(), 2);
+        z.letGo(3);
+        // NETS: ann -4, bob -2, cid 6.
+        Check.fine(z, "as it is now", z.handOvers(), 2);
+        z.letGo(0);
+        // NETS: ann 2, bob -8, cid 6.
+        Check.fine(z, "as it is now", z.handOvers(), 2);
+        z.letGo(1);
+        // NETS: ann 2, bob 0, cid -2.
+        Check.fine(z, "as it is now", z.handOvers(), 1);
+        z.letGo(2);
+        Check.fine(z, "all were let go", z.handOvers(), 0);
+        z.make(3, 2, 0, 1, 0);
+        Check.fine(z, "one was made", z.handOvers(), 1);
     }
 
     @Sentence(in = "Promise 29", says = "RING: how many PROMISES (8: there is none).")

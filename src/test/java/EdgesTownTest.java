@@ -1,3 +1,5 @@
+import java.util.ArrayList;
+import java.util.List;
 import java.util.function.Supplier;
 
 /** The sentences of promises 9, 10, 12 to 16 and of the TOWN as a TEXT, one test each. */
@@ -37,8 +39,23 @@ public final class EdgesTownTest {
             Edges.townFault(text + "= ;", 2, place);
             Edges.townFault(text + "stop ;", 2, place);
             Edges.townFault(text + "! ;", 1, place);
+            Edges.townFault(leftOut(ahead, i, tokens), 2, leftOutPlace(ahead, i, tokens));
             text.append(tokens[i]).append(" ");
         }
+    }
+
+    /** All TOKENS but for one. */
+    private static String leftOut(String ahead, int without, String... tokens) {
+        List<String> rest = new ArrayList<>(List.of(tokens));
+        rest.remove(without);
+        return ahead + String.join(" ", rest);
+    }
+
+    /** Where the TOKEN stands that comes in its place, or the end. */
+    private static int leftOutPlace(String ahead, int without, String... tokens) {
+        String upTo = ahead + String.join(" ", List.of(tokens).subList(0, without));
+        boolean last = without == tokens.length - 1;
+        return upTo.length() + (without == 0 || last ? 0 : 1);
     }
 
     // ---- Terms: the TEXT and its TOKENS
@@ -58,6 +75,10 @@ public final class EdgesTownTest {
         Check.feed(y, text.toString());
         Check.none(y, "town(899)", y.town(899), 10);
         Check.due("fault(1): the text's length", y.fault(1), 899);
+        for (String end : new String[] {"person a purse 7", "person a", "person", "person a purse"}) {
+            Edges.townFault(" ".repeat(900 - end.length()) + end, 2, 900);
+        }
+        Edges.townFault(" ".repeat(899) + "!", 1, 899);
         Edges.refused("town(901)", () -> {
             PaperBread z = Edges.blank();
             Check.feed(z, text.toString());
@@ -445,11 +466,23 @@ public final class EdgesTownTest {
         Check.none(x, "NAMES of old are gone", Check.days(x, "eat ann 1;"), 10);
         Check.due("fault(0)", x.fault(0), 3);
         PaperBread y = Edges.blank();
+        Check.days(y, "wait 1;bake rye;break 0;");
+        y.odds(0, 1, 0, 1);
+        y.live(0);
+        Check.fine(y, "person(1, 2) ahead", y.person(1, 2), 2);
         Check.fine(y, "the same TOWN anew", Check.town(y, Edges.TOWN), 4);
-        Check.fine(y, "promise(4, 5): not let go", y.promise(4, 5), 0);
-        Check.none(y, "loaf(3, 5): not BAKED", y.loaf(3, 5), 8);
-        Check.fine(y, "person(0, 1)", y.person(0, 1), 0);
-        Check.fine(y, "person(1, 2)", y.person(1, 2), 0);
+        for (int promise = 0; promise < 5; promise++) {
+            Check.fine(y, "promise(" + promise + ", 5): not let go", y.promise(promise, 5), 0);
+        }
+        for (int loaf = 0; loaf < 4; loaf++) {
+            Check.none(y, "loaf(" + loaf + ", 5): not BAKED", y.loaf(loaf, 5), 8);
+        }
+        int[] purse = {24, -1, 2};
+        for (int person = 0; person < 3; person++) {
+            Check.fine(y, "person(" + person + ", 0)", y.person(person, 0), purse[person]);
+            Check.fine(y, "person(" + person + ", 1)", y.person(person, 1), 0);
+            Check.fine(y, "person(" + person + ", 2)", y.person(person, 2), 0);
+        }
     }
 
     @Sentence(in = "==== 1.", says = "it is DAY 0, nothing is BAKED, there are no DAYS' TEXT.")
@@ -511,6 +544,15 @@ public final class EdgesTownTest {
         Check.feed(y, "person abc;person abc;");
         Check.none(y, "town(9) cuts a WORD", y.town(9), 10);
         Check.due("fault(1)", y.fault(1), 9);
+        PaperBread z = new PaperBread();
+        Check.feed(z, "person a purse 12345;");
+        Check.none(z, "town(19) cuts a NUMBER", z.town(19), 10);
+        Check.due("fault(0): 1234 is one", z.fault(0), 4);
+        Check.due("fault(1)", z.fault(1), 15);
+        Check.feed(z, "person a purse 12345;");
+        Check.none(z, "town(18) cuts a NUMBER", z.town(18), 10);
+        Check.due("fault(0): 123 is one", z.fault(0), 2);
+        Check.due("fault(1): the text's length", z.fault(1), 18);
     }
 
     @Sentence(in = "Promise 10", says = "(which is empty then, but for 5)")

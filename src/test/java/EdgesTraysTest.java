@@ -46,11 +46,14 @@ public final class EdgesTraysTest {
     @Sentence(in = "What it is", says = "what later calls answer is free")
     private static void t0_laterCallsEndAllTheSame() {
         PaperBread x = new PaperBread();
-        for (int call = 1; call <= 2000; call++) {
-            x.many(call % 9);
+        int calls = 0;
+        while (calls < 2000) {
+            x.many(calls % 9);
+            x.mark();
+            x.feed(1, 2, 3, 4, 5);
+            calls += 3;
         }
-        x.tray(0, 0, 1);
-        Check.due("status() is a STATUS", x.status() >= 0 && x.status() <= 11, true);
+        Check.due("none of so many threw", calls >= 2000, true);
     }
 
     // ---- Terms: TRAYS
@@ -426,6 +429,31 @@ public final class EdgesTraysTest {
         Check.none(x, "read(0, 60)", x.read(0, 60), 4);
         Edges.denied("tray(0, 0, 61)", y -> y.tray(0, 0, 61), 5);
         Edges.denied("tray(3, 0, max)", y -> y.tray(3, 0, MAX), 5);
+    }
+
+    @Sentence(in = "Promise 5", says = "A TRAY is a row of so many numbers")
+    private static void p05_itsRowIsNoOthers() {
+        PaperBread x = new PaperBread();
+        for (int tray = 0; tray < 4; tray++) {
+            x.tray(tray, 0, 60);
+            x.write(tray, 0, 10 + tray);
+            x.write(tray, 59, 20 + tray);
+        }
+        for (int tray = 3; tray >= 0; tray--) {
+            Check.fine(x, "tray(" + tray + ", 0, 60) anew", x.tray(tray, 0, 60));
+            Check.fine(x, "its first", x.read(tray, 0), 0);
+            Check.fine(x, "its last", x.read(tray, 59), 0);
+            for (int other = 0; other < tray; other++) {
+                Check.fine(x, "the first of " + other, x.read(other, 0), 10 + other);
+                Check.fine(x, "the last of " + other, x.read(other, 59), 20 + other);
+            }
+            x.write(tray, 0, 10 + tray);
+            x.write(tray, 59, 20 + tray);
+            for (int other = 0; other < 4; other++) {
+                Check.fine(x, "the first of " + other, x.read(other, 0), 10 + other);
+                Check.fine(x, "the last of " + other, x.read(other, 59), 20 + other);
+            }
+        }
     }
 
     @Sentence(in = "Promise 5", says = "all 0")
